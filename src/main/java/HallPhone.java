@@ -444,7 +444,7 @@ public final class HallPhone {
         }
     }
 
-    private void checkRange(int number, int least, int greatest) {
+    private static void checkRange(int number, int least, int greatest) {
         if (number < least || number > greatest) {
             throw new IllegalArgumentException("out of range");
         }
@@ -957,9 +957,9 @@ public final class HallPhone {
         /** Lets minutes pass; returns how many calls ended in them. */
         private int letPass(int minutes) {
             int ended = 0;
-            int timeBehind = time + minutes;
+            time += minutes;
+            // The steps of a minute do not look at TIME, and change nothing in a quiet house.
             for (int minute = 0; minute < minutes && !isQuiet(); minute++) {
-                time++;
                 if (phone.state == BUSY) {
                     speakOneMinute();
                 }
@@ -977,7 +977,6 @@ public final class HallPhone {
                 }
                 countWaiting();
             }
-            time = timeBehind;
             return ended;
         }
 

@@ -170,6 +170,9 @@ public final class QuestionsTest {
         phone.pass(1);
         EXPECT.same("known by 0 and 2", phone.knowing(1), 5);
         EXPECT.same("the least of two", phone.mostKnown(), 1);
+        phone.want(0, 2);
+        phone.pass(2);
+        EXPECT.same("the least of three", phone.mostKnown(), 0);
     }
 
     private static void promise14() {

@@ -117,6 +117,8 @@ public final class ReasonsTest {
         phone.pass(3);
         EXPECT.same("what it knows", phone.learnsIn(0, 4), 4);
         EXPECT.same("what it knows now", phone.learnsIn(0, 0), 0);
+        phone.want(0, 9);
+        EXPECT.same("the secret of 0", phone.learnsIn(3, 500), 1 + 4);
     }
 
     private static void promise23() {

@@ -8,7 +8,7 @@ public final class RoomTest {
 
     private static long bytesMade() {
         return ((com.sun.management.ThreadMXBean) ManagementFactory.getThreadMXBean())
-                .getThreadAllocatedBytes(Thread.currentThread().getId());
+                .getCurrentThreadAllocatedBytes();
     }
 
     private static void run(Expect expect, String name, java.util.function.IntConsumer call) {

@@ -78,12 +78,14 @@ public final class TextsTest {
 
     private static void promise3() {
         HallPhone phone = new HallPhone();
+        phone.load(1);
         Expect.type(phone, "house 1;");
         EXPECT.argument("parse(21)", () -> phone.parse(21));
         EXPECT.argument("parse(-1)", () -> phone.parse(-1));
         EXPECT.argument("parse(least)", () -> phone.parse(Integer.MIN_VALUE));
         EXPECT.argument("parse(greatest)", () -> phone.parse(Integer.MAX_VALUE));
         EXPECT.same("the buffer stays", phone.size(12), 20);
+        phone.load(0);
         phone.saveSnapshot(0);
         phone.saveSnapshot(1);
         phone.pass(1);
@@ -101,6 +103,8 @@ public final class TextsTest {
         for (int which = 0; which < 6; which++) {
             EXPECT.same("setting " + which, phone.setting(which), new int[] {0, 3, 4, 1, 5, 3}[which]);
         }
+        EXPECT.same("mean", phone.meanCall(), 0.0);
+        EXPECT.same("share", phone.busyShare(), 0.0f);
         EXPECT.same("parse(0)", phone.parse(0), -2 - 1);
         EXPECT.same("one flat", phone.size(0), 1);
         // Only the first bytes are the text; all are gone behind it.
@@ -148,6 +152,8 @@ public final class TextsTest {
         error("House 1;", 0, 1);
         error("hous 1;", 0, 1);
         error("houses 1;", 0, 1);
+        error("housez 1;", 0, 1);
+        error("mouse 1;", 0, 1);
         error("house\t1;", 5, 1);
         error("house 1,", 7, 1);
         error("house 00001;", 6, 1);
