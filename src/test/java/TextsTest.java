@@ -9,23 +9,12 @@ public final class TextsTest {
         "house 9; rate 0; ear 0; patience 0; want 0 99; pass 20;",
     };
 
-    /** Looks for an error at an offset; the house has to be as it was. */
     private static void error(String text, int offset, int code) {
-        HallPhone phone = new HallPhone();
-        phone.pass(2);
-        phone.saveSnapshot(1);
-        phone.writeHouse();
-        long before = phone.checksum();
-        EXPECT.same("parse of '" + text + "'", Expect.parsed(phone, text), -2 - (8 * offset + code));
-        EXPECT.same("checksum behind '" + text + "'", phone.checksum(), before);
-        EXPECT.same("buffer behind '" + text + "'", phone.size(12), 0);
-        EXPECT.same("report behind '" + text + "'", Expect.report(phone), "0#1 1!5 2. 3#0 4.");
-        EXPECT.same("changes behind '" + text + "'", phone.size(11), 1);
-        EXPECT.same("snapshot behind '" + text + "'", phone.saveSnapshot(1), true);
+        EXPECT.textError(text, offset, code);
     }
 
     private static void right(String text, int flats) {
-        EXPECT.same("parse of '" + text + "'", Expect.parsed(new HallPhone(), text), flats);
+        EXPECT.textRight(text, flats);
     }
 
     public static void main(String[] args) {
