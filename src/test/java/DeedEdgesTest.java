@@ -124,6 +124,14 @@ public final class DeedEdgesTest {
         EXPECT.same("FREE", phone.size(2) * 10 + phone.flat(1, 2), 2);
         phone.pass(1);
         EXPECT.same("BUSY", phone.size(2) * 10 + phone.flat(1, 2), 23);
+        for (int queued = 1; queued <= 3; queued++) {
+            HallPhone full = Expect.house("house 0 0 0 0;want 0 9;" + "want 1 9;want 2 9;want 3 9;".substring(0, 9 * queued)
+                    + "pass 3;hang 0;");
+            EXPECT.same("nobody is COMING", full.size(7) * 10 + full.size(8), 10 * queued);
+            EXPECT.same("speaks in", full.speaksIn(1), 1);
+            full.pass(1);
+            EXPECT.same("speaks", full.size(3) * 10 + full.size(7), 10 + queued - 1);
+        }
     }
 
     /** "to ring from outside ..: 5 the telephone is not FREE" */

@@ -319,6 +319,14 @@ public final class FutureEdgesTest {
         EXPECT.same("SECRET is greater now", phone.learnsIn(6, 1), 1);
     }
 
+    /** Section 5: "Sets of flats are told as the sum of 2 to the power of each": of ten flats, and no eleventh */
+    static void learnsInOfTenFlats() {
+        HallPhone phone = Expect.house("house 0 curious" + " 0 curious".repeat(9) + ";secret 1;want 0 1;want 9 1;pass 1;");
+        EXPECT.same("1 learns of 0 and 9", phone.learnsIn(1, 500), 1 + 512);
+        EXPECT.same("0 learns of 9", phone.learnsIn(0, 500), 512);
+        EXPECT.same("9 was QUEUED", phone.learnsIn(9, 500), 0);
+    }
+
     // ---- ifRung
 
     /** Promise 23: "throws IndexOutOfBoundsException": also if the telephone is not FREE */

@@ -305,6 +305,14 @@ public final class TextEdgesTest {
         EXPECT.same("parse(10)", phone.parse(10) * 100 + phone.setting(0), 200);
         Expect.type(phone, text);
         EXPECT.same("parse(18)", phone.parse(18) * 100 + phone.setting(0), 206);
+        Expect.type(phone, "house 12;");
+        EXPECT.same("a cut number", phone.parse(7), -2 - (8 * 7 + 1));
+        Expect.type(phone, "house 1;limit 66;");
+        EXPECT.same("a cut number", phone.parse(15), -2 - (8 * 15 + 1));
+        Expect.type(phone, "house 1;pass 99999;");
+        EXPECT.same("a cut number", phone.parse(16), -2 - (8 * 16 + 1));
+        Expect.type(phone, "house 1;limits 6;");
+        EXPECT.same("a cut word", phone.parse(13), -2 - (8 * 13 + 1));
     }
 
     /** "2 a number that is out of its range": the first token of it is told */
