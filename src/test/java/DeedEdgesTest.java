@@ -70,6 +70,13 @@ public final class DeedEdgesTest {
         EXPECT.same("the others stay", Expect.houseOf(phone), "0!49 1#0 2. 3. 4.");
     }
 
+    /** "It is HOME", and nothing else: messages are read in the hall alone, which it has not seen */
+    static void dropOnTheStairsReadsNoMessage() {
+        HallPhone phone = Expect.house("house 4;ring 0 1;want 0 5;pass 4;ring 0 1;drop 0;");
+        EXPECT.same("slate", Expect.slateOf(phone) + " " + phone.account(7), "0@0 0@4 0");
+        EXPECT.same("it never comes to the hall", phone.pass(9) * 10 + phone.size(9), 2);
+    }
+
     /** "It is HOME": from each place of the queue */
     static void dropFromTheQueue() {
         String[] due = {"0!8 1. 2#0 3#1", "0!8 1#0 2. 3#1", "0!8 1#0 2#1 3."};

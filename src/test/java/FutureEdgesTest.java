@@ -416,6 +416,26 @@ public final class FutureEdgesTest {
         EXPECT.same("ended, written, LOST", "" + phone.account(1) + phone.account(6) + phone.account(8), "081");
     }
 
+    /** Promises 24 and 25: "calls that ended", "the calls that ended": also those from outside, which (c) ends too */
+    static void callsFromOutsideEndToo() {
+        HallPhone phone = Expect.house("house 0 0;ring 0 4;pass 5;");
+        EXPECT.same("by itself", phone.account(1) * 10 + phone.flat(0, 8), 11);
+        EXPECT.same("of one", phone.meanCall(), 4.0);
+        phone.ring(0, 9);
+        phone.pass(2);
+        phone.hang(0);
+        EXPECT.same("hung up", phone.account(1) * 10 + phone.flat(0, 8), 22);
+        EXPECT.same("of two", phone.meanCall(), 5.0 / 2.0);
+        phone.set(0, 3);
+        phone.ring(0, 9);
+        phone.want(1, 2);
+        EXPECT.same("CUT, and the one behind it", phone.pass(6), 2);
+        EXPECT.same("ended, CUT", "" + phone.account(1) + phone.account(2) + phone.flat(0, 8) + phone.flat(1, 8), "4131");
+        EXPECT.same("of four", phone.meanCall(), 10.0 / 4.0);
+        EXPECT.same("minutes that were spoken", phone.account(3), 10);
+        EXPECT.same("money that became DEBT", phone.account(4), 4);
+    }
+
     /** Promise 24: accounts 3 and 9: one minute of a call is heard by nobody, or by several flats together. */
     static void minutesThatWereHeard() {
         HallPhone phone = Expect.house("house 0 0 curious 0 curious;want 0 2;pass 3;");
